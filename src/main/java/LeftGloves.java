@@ -823,7 +823,8 @@ public final class LeftGloves {
             knows |= heard;
             if (Integer.bitCount(knows) > keeps()) {
                 int others = knows & ~heard;
-                knows &= ~Integer.lowestOneBit(others);
+                // The lowest bit of the others goes.
+                knows = heard | others & others - 1;
             }
         }
 
@@ -1197,15 +1198,15 @@ public final class LeftGloves {
         }
 
         int sortAt(int at) {
-            return isWithin(at, size - 1) ? sorts[at] : END;
+            return at >= 0 && at < size ? sorts[at] : END;
         }
 
         int startAt(int at) {
-            return isWithin(at, size - 1) ? starts[at] : 0;
+            return at >= 0 && at < size ? starts[at] : 0;
         }
 
         int numberAt(int at) {
-            return isWithin(at, size - 1) ? numbers[at] : 0;
+            return at >= 0 && at < size ? numbers[at] : 0;
         }
 
         void readFrom(Tape tape) {
@@ -1386,10 +1387,11 @@ public final class LeftGloves {
         /** Takes a number that is so great at most; 0 with a fault. */
         private int takeNumber(int most) {
             int number = tokens.numberAt(at);
-            if (number > most || !takes(Tokens.NUMBER)) {
+            if (faulty || tokens.sortAt(at) != Tokens.NUMBER || number > most) {
                 faulty = true;
                 return 0;
             }
+            at++;
             return number;
         }
 

@@ -6,6 +6,7 @@ public final class AheadTest {
         hears();
         wise();
         out();
+        theLastDayThatCounts();
         Due.end();
     }
 
@@ -68,14 +69,10 @@ public final class AheadTest {
         // Said on its last day only: it goes into the hand and is never known by the glove.
         LeftGloves y = Due.club("glove open 9 lies 6;said 0 0 15 9;said 1 0 0 0;said 2 0 0 0;said 3 0 0 0;said 4 0 0 0;said 5 0 0 0");
         Due.is("drawn on on that day", y.ahead(0, 5, 1), 32768);
-        Due.is("it knows it only from a round later", y.hears(0, 15), lateDay());
+        // Rooms change behind 1, 8, 15, 22, 29 and 36 days: in room 0 again, and day 36 says it.
+        Due.is("it knows it only from a round later", y.hears(0, 15), 37);
         LeftGloves z = Due.club("stiff in 1");
-        Due.is("behind 200 at most", z.hears(0, 1), 2);
-    }
-
-    /** Rooms change at days 1, 8, 15, 22, 29, 36: room 0 again from day 36 on, and 36 is said. */
-    private static int lateDay() {
-        return 37;
+        Due.is("a stiff one hears all of its room", z.hears(0, 1), 2);
     }
 
     private static void wise() {
@@ -94,6 +91,38 @@ public final class AheadTest {
         Due.is("nothing changed", x.of(0, 5), 0);
     }
 
+    /** A double that hears only in a mitten's company: they meet where it is said late, or too late. */
+    private static LeftGloves meeting(int doubleLies, int mittenRoom, int place, int saying) {
+        LeftGloves x = Due.club("double open 0;mitten open 0");
+        x.change(0, 4, doubleLies);
+        x.change(1, 1, mittenRoom);
+        for (int i = 0; i < 6; i++) {
+            x.say(i, i == place ? saying : 0);
+        }
+        return x;
+    }
+
+    private static void theLastDayThatCounts() {
+        LeftGloves x = meeting(1, 2, 1, 4155);
+        Due.is("heard on the last day", x.hears(0, 15), 200);
+        Due.is("out on the last day", x.out(32768), 200);
+        Due.is("wise too late", x.wise(0, 1), Due.NONE);
+        LeftGloves y = meeting(1, 2, 2, 4155);
+        Due.is("heard a day too late", y.hears(0, 15), Due.NONE);
+        Due.is("out a day too late", y.out(32768), Due.NONE);
+        Due.is("wise on the last day", meeting(0, 1, 0, 3155).wise(0, 1), 200);
+        Due.is("wise a day too late", meeting(4, 2, 0, 4155).wise(0, 1), Due.NONE);
+        for (int day = 0; day < 200; day++) {
+            Due.is("not yet heard", x.who(15, 0), 0);
+            x.go(1);
+            y.go(1);
+        }
+        Due.is("heard by then", x.who(15, 0), 1);
+        Due.is("not heard by then", y.who(15, 0), 0);
+        y.go(1);
+        Due.is("heard a day later", y.who(15, 0), 1);
+    }
+
     private static void out() {
         LeftGloves x = Due.club("glove open 9 knows 6;stiff in 3;hand 0 8");
         Due.is("nothing", x.out(0), 0);
@@ -108,9 +137,9 @@ public final class AheadTest {
         Due.is("no gloves: nothing is known", y.out(0), 0);
         Due.is("no gloves: 0 never", y.out(1), Due.NONE);
         Due.is("findings", y.status(3), 1);
-        // A stiff one of 200 days: the last day that counts.
         LeftGloves z = Due.club("mitten open 9 knows 0;said 0 5 15 9");
         Due.is("mitten in room 5 from day 70 on, said on day 72", z.out(32768), 73);
-        Due.is("in its hand from day 84 on", z.wise(0, 16), Due.NONE);
+        Due.is("in its hand from day 84 on", z.ahead(0, 5, 84) >> 15, 1);
+        Due.is("and not before", z.ahead(0, 5, 83) >> 15, 0);
     }
 }
