@@ -140,7 +140,7 @@ public final class LeftGloves {
         if (!isWithin(topic, TOPICS - 1) || !isWithin(hand, 1)) {
             return finding(BEYOND);
         }
-        return hand == 0 ? club.glovesThatKnow(topic) : club.handsThatKnow(topic);
+        return club.whoKnows(topic, hand == 1);
     }
 
     // ---- days
@@ -285,8 +285,7 @@ public final class LeftGloves {
         }
         int best = NOTHING;
         for (int set = 0; set < 1 << club.size; set++) {
-            boolean fewer = best == NOTHING || Integer.bitCount(set) < Integer.bitCount(best);
-            if (fewer && (topics & ~club.knownWithHands(set)) == 0) {
+            if (isFewer(set, best) && (topics & ~(club.knownBy(set) | club.knownByHandsOf(set))) == 0) {
                 best = set;
             }
         }
@@ -299,12 +298,16 @@ public final class LeftGloves {
         }
         int best = NOTHING;
         for (int set = 0; set < 1 << club.size; set++) {
-            boolean fewer = best == NOTHING || Integer.bitCount(set) < Integer.bitCount(best);
-            if (fewer && !isIn(glove, set) && comesToKnowWithout(set, glove, topic, n)) {
+            if (isFewer(set, best) && !isIn(glove, set) && comesToKnowWithout(set, glove, topic, n)) {
                 best = set;
             }
         }
         return best == NOTHING ? finding(NONE) : best;
+    }
+
+    /** Whether a set has fewer gloves than the best so far, if there is one. */
+    private static boolean isFewer(int set, int best) {
+        return best == NOTHING || Integer.bitCount(set) < Integer.bitCount(best);
     }
 
     /** The least v, as a trait of a glove, with which its hand knows most behind n days. */
@@ -348,11 +351,9 @@ public final class LeftGloves {
 
     /** Which values a trait of a glove could have now so that all goes as a sheet tells. */
     private int choicesAsTold(int s, int glove, int trait, int most) {
-        if (!isSheet(s)) {
-            return finding(BEYOND);
-        }
-        if (sheets[s].isMissing()) {
-            return finding(MISSING);
+        int lack = lackOf(s);
+        if (lack != 0) {
+            return finding(lack);
         }
         if (!club.has(glove)) {
             return finding(BEYOND);
@@ -489,11 +490,9 @@ public final class LeftGloves {
     }
 
     public int write(int s, int i, int v) {
-        if (!isSheet(s)) {
-            return finding(BEYOND);
-        }
-        if (sheets[s].isMissing()) {
-            return finding(MISSING);
+        int lack = lackOf(s);
+        if (lack != 0) {
+            return finding(lack);
         }
         if (!isWithin(i, sheets[s].size - 1)) {
             return finding(BEYOND);
@@ -522,11 +521,9 @@ public final class LeftGloves {
     }
 
     public int load(int s) {
-        if (!isSheet(s)) {
-            return finding(BEYOND);
-        }
-        if (sheets[s].isMissing()) {
-            return finding(MISSING);
+        int lack = lackOf(s);
+        if (lack != 0) {
+            return finding(lack);
         }
         int came = 0;
         while (came < PLACES && came < sheets[s].size && isSaying(sheets[s].numbers[came])) {
@@ -537,11 +534,9 @@ public final class LeftGloves {
     }
 
     public int judge(int s) {
-        if (!isSheet(s)) {
-            return finding(BEYOND);
-        }
-        if (sheets[s].isMissing()) {
-            return finding(MISSING);
+        int lack = lackOf(s);
+        if (lack != 0) {
+            return finding(lack);
         }
         for (int i = 0; i < sheets[s].size; i++) {
             if (!club.has(i) || club.gloves[i].hand != sheets[s].numbers[i]) {
@@ -614,6 +609,14 @@ public final class LeftGloves {
             findings[which]++;
         }
         return told;
+    }
+
+    /** What there is to find of a sheet that must be there; 0 if it is. */
+    private int lackOf(int s) {
+        if (!isSheet(s)) {
+            return BEYOND;
+        }
+        return sheets[s].isMissing() ? MISSING : 0;
     }
 
     private static boolean isSheet(int s) {
@@ -927,11 +930,11 @@ public final class LeftGloves {
             return known;
         }
 
-        int knownWithHands(int set) {
+        int knownByHandsOf(int set) {
             int known = 0;
             for (int g = 0; g < size; g++) {
                 if (isIn(g, set)) {
-                    known |= gloves[g].knows | gloves[g].hand;
+                    known |= gloves[g].hand;
                 }
             }
             return known;
@@ -942,35 +945,21 @@ public final class LeftGloves {
         }
 
         int knownByHands() {
-            int known = 0;
-            for (int g = 0; g < size; g++) {
-                known |= gloves[g].hand;
-            }
-            return known;
+            return knownByHandsOf(everyone());
         }
 
         int knownToAnyone() {
-            return knownWithHands(everyone());
+            return knownByGloves() | knownByHands();
         }
 
         int everyone() {
             return (1 << size) - 1;
         }
 
-        int glovesThatKnow(int topic) {
+        int whoKnows(int topic, boolean byHand) {
             int set = 0;
             for (int g = 0; g < size; g++) {
-                if (isIn(topic, gloves[g].knows)) {
-                    set |= 1 << g;
-                }
-            }
-            return set;
-        }
-
-        int handsThatKnow(int topic) {
-            int set = 0;
-            for (int g = 0; g < size; g++) {
-                if (isIn(topic, gloves[g].hand)) {
+                if (isIn(topic, byHand ? gloves[g].hand : gloves[g].knows)) {
                     set |= 1 << g;
                 }
             }

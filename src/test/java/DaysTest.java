@@ -114,6 +114,10 @@ public final class DaysTest {
         Due.is("day 99960", x.now(0), 99960);
         Due.is("go beyond the last day", x.go(40), Due.STATE);
         Due.is("talk beyond the last day", x.talk(20) == 0 && x.talk(20) == Due.STATE ? 1 : 0, 1);
+        x.image();
+        Due.is("talk to the last day", x.talk(19), 0);
+        Due.is("day 99999", x.now(0), 99999);
+        x.undo();
         Due.is("go to the last day", x.go(19), 0);
         Due.is("day 99999", x.now(0), 99999);
         Due.is("go on from the last day", x.go(1), Due.STATE);

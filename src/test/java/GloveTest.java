@@ -149,6 +149,8 @@ public final class GloveTest {
         Due.is("who knows 15", x.who(15, 0), 1);
         Due.is("whose hand knows 15", x.who(15, 1), 6);
         Due.is("whose hand knows 0", x.who(0, 1), 0);
+        x.change(0, 5, 32768);
+        Due.is("whose hand knows 15, all", x.who(15, 1), 7);
         Due.is("who -1", x.who(-1, 0), Due.BEYOND);
         Due.is("who 16", x.who(16, 0), Due.BEYOND);
         Due.is("who hand -1", x.who(0, -1), Due.BEYOND);

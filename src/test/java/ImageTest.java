@@ -3,6 +3,7 @@ public final class ImageTest {
     public static void main(String[] args) {
         undo();
         whatIsNotKept();
+        goneGloves();
         latest();
         tear();
         count();
@@ -66,6 +67,48 @@ public final class ImageTest {
         x.tear();
         x.undo();
         Due.is("two findings", x.status(-1), 2);
+    }
+
+    /** Gloves that an undo took back are in no answer any more. */
+    private static void goneGloves() {
+        LeftGloves x = new LeftGloves();
+        x.image();
+        for (int glove = 0; glove < 8; glove++) {
+            x.glove(6, 0);
+            int[] traits = {6, 0, 9, 65535, 4, 65535, 9};
+            for (int what = 0; what < 7; what++) {
+                x.change(glove, what, traits[what]);
+            }
+        }
+        answers(x, 8, 255);
+        x.undo();
+        answers(x, 0, 0);
+        x.glove(0, 0);
+        Due.is("nobody else is in the room", x.room(0, 0), 1);
+        Due.is("nobody hushes", x.room(0, 1), 0);
+        Due.is("nobody is covered by", x.cover(1), Due.NONE);
+        Due.is("need not be away", x.away(0, 0, 1), 0);
+        Due.is("heard", x.go(1), 1);
+    }
+
+    private static void answers(LeftGloves x, int gloves, int set) {
+        int topics = gloves == 0 ? 0 : 65535;
+        Due.is("gloves", x.count(1), gloves);
+        Due.is("in the room", x.room(0, 0), set);
+        Due.is("hush", x.room(0, 1), 2 * gloves);
+        Due.is("known in the room", x.room(0, 2), topics);
+        Due.is("who", x.who(3, 0), set);
+        Due.is("whose hand", x.who(3, 1), set);
+        Due.is("known", x.now(1), topics);
+        Due.is("known by hands", x.now(2), topics);
+        Due.is("known by neither", x.now(3), 65535 - topics);
+        Due.is("drawn", x.now(4), 9 * gloves);
+        Due.is("wisest", x.now(5), gloves == 0 ? -1 : 0);
+        Due.is("hearers", x.now(6), 0);
+        Due.is("drawn", x.count(4), 9 * gloves);
+        Due.is("out", x.out(65535), gloves == 0 ? Due.NONE : 0);
+        Due.is("cover", x.cover(65535), gloves == 0 ? Due.NONE : 1);
+        Due.is("lower", x.lower(0), 9);
     }
 
     private static void latest() {

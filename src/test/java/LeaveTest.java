@@ -49,6 +49,8 @@ public final class LeaveTest {
         Due.is("of -1", x.openFor(-1, 0, 0), Due.BEYOND);
         LeftGloves y = Due.club("glove;said 0 0 8 1");
         Due.is("9 at most, and it does", y.openFor(0, 1, 7), 9);
+        y.say(0, 80);
+        Due.is("9 at most, and it doesn't", y.openFor(0, 1, 7), Due.NONE);
     }
 
     private static void kindFor() {
@@ -65,6 +67,9 @@ public final class LeaveTest {
         LeftGloves z = Due.club("burnt open 9;lady;said 0 0 8 3;said 1 0 9 3;said 2 0 9 2;said 3 0 10 1");
         // Hushed to 2, 2, 1, 0: a glove needs 1, a kidskin (hushed to 1, 1, 0, 0) 0.
         Due.is("a kidskin hears it all", z.kindFor(0, 5), 1);
+        // With fingers closed only a double in company hears 3, hushed by itself to 1.
+        LeftGloves v = Due.club("stiff open 0;burnt;said 0 0 8 3");
+        Due.is("a double", v.kindFor(0, 5), 6);
         Due.is("kindFor of none", x.kindFor(1, 0), Due.BEYOND);
         Due.is("kindFor of -1", x.kindFor(-1, 0), Due.BEYOND);
         Due.is("kindFor -1", x.kindFor(0, -1), Due.BEYOND);
@@ -91,6 +96,8 @@ public final class LeaveTest {
         LeftGloves y = Due.club("glove open 9;glove open 0;kidskin in 1 open 8");
         Due.is("loud 0 isn't heard by a need of 1", y.lower(0), 0);
         Due.is("loud 0 is heard by a need of 0", y.lower(1), Due.NONE);
+        LeftGloves z = Due.club("stiff in 3;said 0 3 0 9");
+        Due.is("not below 0", z.lower(0), Due.NONE);
     }
 
     private static void cover() {
@@ -154,6 +161,9 @@ public final class LeaveTest {
         Due.is("with the lady there it keeps 2", y.away(0, 2, 2), 0);
         Due.is("0 is forgotten either way", y.away(0, 0, 2), Due.NONE);
         Due.is("8 is heard without the lady", y.away(0, 8, 2), 2);
+        // Two kidskins hush as much as one double.
+        LeftGloves w = Due.club("kidskin open 0;kidskin open 0;double open 0;glove open 5;said 0 0 9 7");
+        Due.is("fewest, though not the least number", w.away(3, 9, 1), 4);
         // Gloves that come later: those away are not drawn on, nor do they come into a room.
         LeftGloves z = Due.club("glove in 1 open 1;kidskin lies 4;said 0 2 0 0;said 1 1 9 9");
         Due.is("the kidskin comes on day 1 and hushes", z.ahead(0, 3, 2), 0);

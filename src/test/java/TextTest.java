@@ -92,7 +92,7 @@ public final class TextTest {
 
     private static void faults() {
         Object[][] faults = {
-            {"", 0}, {" ", 1}, {";", 0}, {"7", 0}, {"in", 0}, {"open 3", 0}, {"sock", 0}, {"Lady", 0}, {"ladys", 0},
+            {"", 0}, {" ", 1}, {";", 0}, {"7", 0}, {"in", 0}, {"open 3", 0}, {"sock", 0}, {"Lady", 0}, {"ladys", 0}, {"ladyz", 0}, {"ladya", 0},
             {"lad", 0}, {"gloveglove", 0}, {"lady;", 5}, {"lady; ", 6}, {"lady;;lady", 5}, {"lady lady", 5},
             {"lady said 0 0 0 0", 5}, {"lady 3", 5}, {"lady\tin 3", 4}, {"lady\n", 4}, {"lady.", 4}, {"lady -1", 5},
             {"lady in", 7}, {"lady in ", 8}, {"lady in in", 8}, {"lady in;", 7}, {"lady in 6", 8}, {"lady in -1", 8},
