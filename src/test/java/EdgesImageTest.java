@@ -83,9 +83,10 @@ public final class EdgesImageTest {
         x.image();
         for (int glove = 1; glove < 8; glove++) {
             x.glove(5, 1);
-            x.change(glove, 3, 2);
-            x.change(glove, 5, 4);
-            x.change(glove, 6, 3);
+            int[] traits = {4, 1, 8, 2, 77, 4, 3};
+            for (int what = 0; what < 7; what++) {
+                x.change(glove, what, traits[what]);
+            }
         }
         x.undo();
         Due.is("Promise 38: one GLOVE is there", x.count(1), 1);
@@ -98,6 +99,8 @@ public final class EdgesImageTest {
         for (int what = 0; what < 7; what++) {
             Due.is("Promise 5: it is new, what " + what, x.of(1, what), first[what]);
         }
+        x.change(1, 2, 0);
+        x.change(1, 4, 9);
         Due.is("Promise 38: undone again", x.undo(), 0);
         Due.is("Promise 29: a TEXT tells a new one, too", Due.text(x, "glove"), 1);
         for (int what = 0; what < 7; what++) {

@@ -7,6 +7,7 @@ public final class EdgesLeaveTest {
 
     public static void main(String[] args) {
         leaveBounds();
+        leaveInNoOther();
         leaveBeyond();
         openForBounds();
         openForBeyond();
@@ -74,6 +75,22 @@ public final class EdgesLeaveTest {
         // A MITTEN lies 14 DAYS: 60 DAYS are four times that, and ROOM 3 is the fourth from ROOM 0 on.
         Due.is("Promise 16: drawn on in ROOM 3 behind 56 DAYS", z.leave(0, 56), 0);
         Due.is("Promise 16: ROOM 3 is left behind 56 DAYS only", z.leave(0, 55), 1);
+    }
+
+    /** IN each ROOM a MITTEN hears what it KNOWS, and forgets by it: all ROOMS are as bad, and there is no seventh. */
+    private static void leaveInNoOther() {
+        LeftGloves x = new LeftGloves();
+        for (int i = 0; i < 6; i++) {
+            x.say(i, 1000 * i + 49);
+        }
+        x.glove(2, 3);
+        x.change(0, 2, 9);
+        x.change(0, 3, 31);
+        Due.is("Promise 16: ROOMS 0 to 5 alone, of several the least number", x.leave(0, 14), 0);
+        for (int room = 0; room < 6; room++) {
+            x.change(0, 1, room);
+            Due.is("Promise 16: two TOPICS are forgotten IN ROOM " + room, x.ahead(0, 5, 14), 28);
+        }
     }
 
     private static void leaveBeyond() {

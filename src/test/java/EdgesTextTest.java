@@ -1,10 +1,13 @@
 import java.nio.charset.StandardCharsets;
+import java.util.List;
 
 /** Boundary cases of promises 27 to 29, and of a TEXT in the Terms. */
 public final class EdgesTextTest {
     private static final int LEAST = Integer.MIN_VALUE;
     private static final int MOST = Integer.MAX_VALUE;
     private static final String[] KINDS = {"glove", "kidskin", "mitten", "lady", "burnt", "stiff", "double"};
+    private static final String[] WORDS = {
+        "glove", "kidskin", "mitten", "lady", "burnt", "stiff", "double", "in", "open", "knows", "lies", "said", "hand"};
 
     public static void main(String[] args) {
         feedBytes();
@@ -172,8 +175,27 @@ public final class EdgesTextTest {
             fault("Terms, FAULT: another WORD", word, 0);
             fault("Terms, FAULT: another WORD behind the SIGN", "lady;" + word, 5);
         }
+        for (String word : WORDS) {
+            for (int i = 0; i < word.length(); i++) {
+                char next = word.charAt(i) == 'z' ? 'a' : (char) (word.charAt(i) + 1);
+                String other = word.substring(0, i) + next + word.substring(i + 1);
+                misspelt(word, other);
+                misspelt(word, word.substring(0, i) + word.substring(i + 1));
+            }
+            misspelt(word, word + "s");
+            misspelt(word, "s" + word);
+        }
         fault("Terms, FAULT: a NUMBER for an ITEM", "0", 0);
         fault("Terms, FAULT: a SIGN for an ITEM", ";lady", 0);
+    }
+
+    /** A WORD that isn't quite the one that is due, put where that one may stand. */
+    private static void misspelt(String word, String other) {
+        if (other.isEmpty() || List.of(WORDS).contains(other)) {
+            return;
+        }
+        boolean trait = List.of("in", "open", "knows", "lies").contains(word);
+        fault("Terms, FAULT: another WORD than " + word, trait ? "lady " + other + " 1" : other, trait ? 5 : 0);
     }
 
     private static void roomNumbers() {
